@@ -140,24 +140,22 @@ public final class FoundOffice {
     }
 
     public int fits(int r, int t) {
-        if (!reports.has(r) || !things.has(t)) {
+        if (!arePair(r, t)) {
             return NONE;
         }
         return match.isFit(r, t) ? 1 : 0;
     }
 
     public int tells(int r, int t) {
-        if (!reports.has(r) || !things.has(t)) {
-            return NONE;
-        }
-        return match.firstClash(r, t);
+        return arePair(r, t) ? match.firstClash(r, t) : NONE;
     }
 
     public int strength(int r, int t) {
-        if (!reports.has(r) || !things.has(t)) {
-            return NONE;
-        }
-        return match.strengthOf(r, t);
+        return arePair(r, t) ? match.strengthOf(r, t) : NONE;
+    }
+
+    private boolean arePair(int r, int t) {
+        return reports.has(r) && things.has(t);
     }
 
     public int fitting(int r) {
