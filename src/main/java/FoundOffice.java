@@ -975,7 +975,7 @@ public final class FoundOffice {
         }
 
         void finish(int c, int state) {
-            if (!isStanding(c)) {
+            if (c < 0 || c >= size || states[c] > PROVED) {
                 return;
             }
             states[c] = state;
@@ -1179,8 +1179,9 @@ public final class FoundOffice {
             for (int j = 0; j < thingCount; j++) {
                 match.weigh(goods[j]);
                 for (int i = 0; i < reportCount; i++) {
-                    if (isIn(fitSets[members[i]], goods[j])) {
-                        assignment.allow(i, j, match.addWorths(members[i]));
+                    int r = members[i];
+                    if (r >= 0 && r < fitSets.length && isIn(fitSets[r], goods[j])) {
+                        assignment.allow(i, j, match.addWorths(r));
                     }
                 }
             }
