@@ -1,13 +1,13 @@
 /** Each promise by its number: ordinary calls, the edges that the document names, and wrong ones. */
 public final class PromisesTest {
-    private static final int MAX = Integer.MAX_VALUE;
-    private static final int MIN = Integer.MIN_VALUE;
-    private static final int PLAIN = 0;
-    private static final int BAG = 1;
-    private static final int PAPER = 2;
-    private static final int WORTH = 3;
-    private static final int PERISH = 4;
-    private static final int KEY = 5;
+    private static final int MAX = Make.MAX;
+    private static final int MIN = Make.MIN;
+    private static final int PLAIN = Make.PLAIN;
+    private static final int BAG = Make.BAG;
+    private static final int PAPER = Make.PAPER;
+    private static final int WORTH = Make.WORTH;
+    private static final int PERISH = Make.PERISH;
+    private static final int KEY = Make.KEY;
 
     private PromisesTest() {
     }
@@ -56,34 +56,6 @@ public final class PromisesTest {
         Check.end("PromisesTest");
     }
 
-    private static FoundOffice withTables(int... counts) {
-        FoundOffice x = new FoundOffice();
-        for (int q = 0; q < counts.length; q++) {
-            Check.same("a table", x.question(0, counts[q], 1), q);
-        }
-        return x;
-    }
-
-    private static void things(FoundOffice x, int n, int kind) {
-        for (int i = 0; i < n; i++) {
-            x.thing(kind, 0, false, -1);
-        }
-    }
-
-    private static void reports(FoundOffice x, int n) {
-        for (int i = 0; i < n; i++) {
-            x.report(101 + i);
-        }
-    }
-
-    /** A row of answers, all made new; -1 for nothing. */
-    private static void row(FoundOffice x, boolean report, int of, int... answers) {
-        x.tear(report, of, -1);
-        for (int q = 0; q < answers.length; q++) {
-            Check.yes("mark", x.mark(report, of, q, answers[q]));
-        }
-    }
-
     private static void newObject() {
         FoundOffice x = new FoundOffice();
         for (int what = 0; what <= 13; what++) {
@@ -118,7 +90,7 @@ public final class PromisesTest {
     }
 
     private static void may() {
-        FoundOffice x = withTables(3, 40, 1);
+        FoundOffice x = Make.withTables(3, 40, 1);
         x.question(1, 1, 1);
         x.question(2, 0, 1);
         Check.yes("3 told", x.may(0, 0, 2, true));
@@ -144,7 +116,7 @@ public final class PromisesTest {
     }
 
     private static void mays() {
-        FoundOffice x = withTables(3);
+        FoundOffice x = Make.withTables(3);
         for (int n = 0; n <= 10; n++) {
             x.question(1, n, 1);
         }
@@ -229,7 +201,7 @@ public final class PromisesTest {
     }
 
     private static void mark() {
-        FoundOffice x = withTables(3, 3, 3);
+        FoundOffice x = Make.withTables(3, 3, 3);
         x.question(2, 0, 1);
         x.thing(PLAIN, 0, false, -1);
         x.report(1);
@@ -269,12 +241,12 @@ public final class PromisesTest {
     }
 
     private static void tear() {
-        FoundOffice x = withTables(3, 3, 3);
+        FoundOffice x = Make.withTables(3, 3, 3);
         x.thing(PLAIN, 0, false, -1);
         x.report(1);
         Check.no("8 missing", x.tear(false, 0, 0));
         Check.no("8 missing", x.tear(false, 0, -1));
-        row(x, false, 0, 1, 2, 1);
+        Make.row(x, false, 0, 1, 2, 1);
         Check.no("8 fewer places", x.tear(false, 0, 4));
         Check.no("8 below NONE", x.tear(false, 0, -2));
         Check.no("8 far off", x.tear(false, 0, MIN));
@@ -327,15 +299,15 @@ public final class PromisesTest {
     }
 
     private static void fitsAndTells() {
-        FoundOffice x = withTables(4, 4, 4);
-        things(x, 2, PLAIN);
-        reports(x, 2);
+        FoundOffice x = Make.withTables(4, 4, 4);
+        Make.things(x, 2, PLAIN);
+        Make.reports(x, 2);
         Check.same("11 missing rows", x.fits(0, 0), 1);
         Check.same("12 missing rows", x.tells(0, 0), -1);
-        row(x, false, 0, 0, 1, 2);
-        row(x, true, 0, -1, 1);
+        Make.row(x, false, 0, 0, 1, 2);
+        Make.row(x, true, 0, -1, 1);
         Check.same("11 what both know", x.fits(0, 0), 1);
-        row(x, true, 0, -1, 3, 3);
+        Make.row(x, true, 0, -1, 3, 3);
         Check.same("11 apart", x.fits(0, 0), 0);
         Check.same("12 the first", x.tells(0, 0), 1);
         x.may(1, 1, 3, true);
@@ -362,14 +334,14 @@ public final class PromisesTest {
         x.question(0, 4, 7);
         x.question(0, 4, 100);
         x.question(1, 10, 3);
-        things(x, 6, PLAIN);
-        reports(x, 2);
+        Make.things(x, 6, PLAIN);
+        Make.reports(x, 2);
         for (int t = 0; t < 5; t++) {
-            row(x, false, t, 1, t % 2, 200);
+            Make.row(x, false, t, 1, t % 2, 200);
         }
-        row(x, true, 0, 1);
+        Make.row(x, true, 0, 1);
         Check.same("13 84 divided by 5", x.strength(0, 0), 16);
-        row(x, true, 0, 1, 0, 100);
+        Make.row(x, true, 0, 1, 0, 100);
         Check.same("13 each question by itself", x.strength(0, 0), 16 + 400 + 7);
         Check.same("13 does not fit", x.strength(0, 1), -1);
         x.may(1, 0, 1, true);
@@ -386,11 +358,11 @@ public final class PromisesTest {
     }
 
     private static void fittingAndFit() {
-        FoundOffice x = withTables(3);
-        things(x, 5, PLAIN);
-        reports(x, 1);
-        row(x, false, 1, 2);
-        row(x, true, 0, 0);
+        FoundOffice x = Make.withTables(3);
+        Make.things(x, 5, PLAIN);
+        Make.reports(x, 1);
+        Make.row(x, false, 1, 2);
+        Make.row(x, true, 0, 0);
         Check.same("14 fitting", x.fitting(0), 4);
         int[] due = {0, 2, 3, 4, -1};
         for (int k = 0; k < due.length; k++) {
@@ -420,19 +392,19 @@ public final class PromisesTest {
         FoundOffice x = new FoundOffice();
         x.question(0, 4, 1);
         x.question(0, 4, 9);
-        things(x, 3, PLAIN);
-        reports(x, 3);
-        row(x, false, 0, 0, 0);
-        row(x, false, 1, 0, 1);
-        row(x, false, 2, 0, 2);
-        row(x, true, 0, 0, 1);
-        row(x, true, 1, 0);
-        row(x, true, 2, 0, 2);
+        Make.things(x, 3, PLAIN);
+        Make.reports(x, 3);
+        Make.row(x, false, 0, 0, 0);
+        Make.row(x, false, 1, 0, 1);
+        Make.row(x, false, 2, 0, 2);
+        Make.row(x, true, 0, 0, 1);
+        Make.row(x, true, 1, 0);
+        Make.row(x, true, 2, 0, 2);
         Check.same("16 by strength", x.best(0), 1);
         Check.same("16 by strength", x.best(1), 0);
         Check.same("16 by strength", x.best(2), 2);
         Check.same("17 the sum", x.sum(1), 4 + 108 + 4 + 4 + 108);
-        row(x, true, 2, 0, 1);
+        Make.row(x, true, 2, 0, 1);
         Check.same("16 the lesser report first", x.best(0), 1);
         Check.same("16 none is left", x.best(2), -1);
         Check.same("16 none is left", x.best(1), 0);
@@ -445,50 +417,50 @@ public final class PromisesTest {
         Check.same("16 no such report", x.best(MIN), -1);
         Check.same("17 no such report", x.sum(3), -1);
         Check.same("17 no such report", x.sum(-1), -1);
-        row(x, true, 1, 3);
+        Make.row(x, true, 1, 3);
         Check.same("16 fits nothing", x.best(1), -1);
         Check.same("17 fits nothing", x.sum(1), 0);
     }
 
     private static void bestOfSeveralWays() {
-        FoundOffice x = withTables(2, 2, 2);
-        things(x, 4, PLAIN);
-        reports(x, 3);
+        FoundOffice x = Make.withTables(2, 2, 2);
+        Make.things(x, 4, PLAIN);
+        Make.reports(x, 3);
         Check.same("16 strength 0 is better than none", x.best(0), 0);
         Check.same("16 strength 0 is better than none", x.best(2), 2);
         Check.same("17 strength 0", x.sum(2), 0);
-        row(x, true, 0, 0);
-        row(x, false, 0, 1);
-        row(x, false, 1, 1);
+        Make.row(x, true, 0, 0);
+        Make.row(x, false, 0, 1);
+        Make.row(x, false, 1, 1);
         Check.same("16 the lesser number that it fits", x.best(0), 2);
         Check.same("16 the next report takes the lesser", x.best(1), 0);
         Check.same("16 and the next", x.best(2), 1);
-        FoundOffice y = withTables(2, 2, 2);
+        FoundOffice y = Make.withTables(2, 2, 2);
         y.thing(PLAIN, 0, false, -1);
-        reports(y, 2);
-        row(y, false, 0, 1);
-        row(y, true, 0, 1);
-        row(y, true, 1, 1);
+        Make.reports(y, 2);
+        Make.row(y, false, 0, 1);
+        Make.row(y, true, 0, 1);
+        Make.row(y, true, 1, 1);
         Check.same("16 of two alike the first report", y.best(0), 0);
         Check.same("16 none for the second", y.best(1), -1);
         Check.same("17 one strength", y.sum(1), 12);
         FoundOffice z = new FoundOffice();
         z.question(0, 3, 1);
         z.question(0, 3, 10);
-        things(z, 2, PLAIN);
-        reports(z, 2);
-        row(z, false, 0, 0, 0);
-        row(z, false, 1, 0, 1);
-        row(z, true, 0, 0);
-        row(z, true, 1, 0, 0);
+        Make.things(z, 2, PLAIN);
+        Make.reports(z, 2);
+        Make.row(z, false, 0, 0, 0);
+        Make.row(z, false, 1, 0, 1);
+        Make.row(z, true, 0, 0);
+        Make.row(z, true, 1, 0, 0);
         Check.same("16 the sum comes ahead of the lesser number", z.best(0), 1);
         Check.same("16 the sum comes ahead of the lesser number", z.best(1), 0);
     }
 
     private static void tooLarge() {
-        FoundOffice x = withTables(3);
-        things(x, 2, PLAIN);
-        reports(x, 10);
+        FoundOffice x = Make.withTables(3);
+        Make.things(x, 2, PLAIN);
+        Make.reports(x, 10);
         for (int r = 0; r < 10; r++) {
             Check.same("16 ten reports, two things", x.best(r), r < 2 ? r : -1);
         }
@@ -500,18 +472,18 @@ public final class PromisesTest {
         x.close(5);
         Check.same("16 ten open ones", x.best(10), -1);
         Check.same("16 closed comes ahead", x.best(5), -1);
-        things(x, 18, PLAIN);
+        Make.things(x, 18, PLAIN);
         for (int r = 0; r < 10; r++) {
             Check.same("16 ten reports, twenty things", x.best(r), r == 5 ? -1 : r < 5 ? r : r - 1);
         }
-        things(x, 1, PLAIN);
+        Make.things(x, 1, PLAIN);
         Check.same("16 twenty-one things", x.best(0), -2);
         Check.same("17 twenty-one things", x.sum(0), -2);
         Check.same("18 twenty-one things", x.also(0), -2);
         Check.same("19 twenty-one things", x.group(0, 1), 21);
-        row(x, false, 20, 1);
+        Make.row(x, false, 20, 1);
         for (int r = 0; r < 11; r++) {
-            row(x, true, r, 2);
+            Make.row(x, true, r, 2);
         }
         Check.same("16 one less", x.best(0), 0);
         Check.same("18 all alike", x.also(0), 20);
@@ -521,28 +493,28 @@ public final class PromisesTest {
         FoundOffice x = new FoundOffice();
         x.question(0, 3, 1);
         x.question(0, 3, 10);
-        things(x, 5, PLAIN);
-        reports(x, 2);
-        row(x, false, 0, 0, 0);
-        row(x, false, 1, 0, 1);
-        row(x, false, 2, 0);
-        row(x, false, 3, 1);
-        row(x, true, 0, 0);
-        row(x, true, 1, 0, 0);
+        Make.things(x, 5, PLAIN);
+        Make.reports(x, 2);
+        Make.row(x, false, 0, 0, 0);
+        Make.row(x, false, 1, 0, 1);
+        Make.row(x, false, 2, 0);
+        Make.row(x, false, 3, 1);
+        Make.row(x, true, 0, 0);
+        Make.row(x, true, 1, 0, 0);
         Check.same("16 the second best for the first", x.best(0), 1);
         Check.same("18 as strong", x.also(0), 3);
         Check.same("18 itself alone", x.also(1), 1);
         Check.same("18 no such report", x.also(2), -1);
         Check.same("18 no such report", x.also(-1), -1);
-        row(x, true, 1, 2, 2);
+        Make.row(x, true, 1, 2, 2);
         for (int t = 0; t < 5; t++) {
-            row(x, false, t, 0);
+            Make.row(x, false, t, 0);
         }
         Check.same("18 none given", x.also(1), -1);
         Check.same("18 all", x.also(0), 5);
         x.into(4, -1);
         x.thing(BAG, 0, false, -1);
-        row(x, false, 5, 1);
+        Make.row(x, false, 5, 1);
         x.into(4, 5);
         x.days(BAG, 1);
         x.day(1);
@@ -552,25 +524,25 @@ public final class PromisesTest {
     }
 
     private static void group() {
-        FoundOffice x = withTables(5, 5);
-        things(x, 4, PLAIN);
-        reports(x, 5);
-        row(x, false, 0, 0, 0);
-        row(x, false, 1, 0, 1);
-        row(x, false, 2, 1, 1);
-        row(x, false, 3, 2, 2);
-        row(x, true, 0, 1);
-        row(x, true, 1, 0, 0);
-        row(x, true, 2, 2);
-        row(x, true, 3, -1, 1);
-        row(x, true, 4, 4);
+        FoundOffice x = Make.withTables(5, 5);
+        Make.things(x, 4, PLAIN);
+        Make.reports(x, 5);
+        Make.row(x, false, 0, 0, 0);
+        Make.row(x, false, 1, 0, 1);
+        Make.row(x, false, 2, 1, 1);
+        Make.row(x, false, 3, 2, 2);
+        Make.row(x, true, 0, 1);
+        Make.row(x, true, 1, 0, 0);
+        Make.row(x, true, 2, 2);
+        Make.row(x, true, 3, -1, 1);
+        Make.row(x, true, 4, 4);
         Check.same("19 hangs by one thing", x.group(0, 0), 2);
         Check.same("19 things of all", x.group(0, 1), 2);
         Check.same("19 does not hang", x.group(1, 0), 1);
         Check.same("19 does not hang", x.group(2, 1), 1);
         Check.same("19 fits nothing", x.group(4, 0), 1);
         Check.same("19 fits nothing", x.group(4, 1), 0);
-        row(x, true, 1, 0);
+        Make.row(x, true, 1, 0);
         Check.same("19 a row of three", x.group(0, 0), 3);
         Check.same("19 a row of three", x.group(1, 0), 3);
         Check.same("19 a row of three", x.group(1, 1), 3);
@@ -585,18 +557,18 @@ public final class PromisesTest {
     }
 
     private static void like() {
-        FoundOffice x = withTables(3, 3);
-        things(x, 4, PLAIN);
+        FoundOffice x = Make.withTables(3, 3);
+        Make.things(x, 4, PLAIN);
         Check.same("20 missing ones", x.like(0, 1), 1);
-        row(x, false, 0, -1, -1);
+        Make.row(x, false, 0, -1, -1);
         Check.same("20 missing and empty", x.like(0, 1), 1);
-        row(x, false, 0, 1);
+        Make.row(x, false, 0, 1);
         Check.same("20 one does not know", x.like(0, 1), 0);
-        row(x, false, 1, 1, -1);
+        Make.row(x, false, 1, 1, -1);
         Check.same("20 same answers", x.like(1, 0), 1);
-        row(x, false, 1, 1, 0);
+        Make.row(x, false, 1, 1, 0);
         Check.same("20 not the second", x.like(1, 0), 0);
-        row(x, false, 0, 1, 2);
+        Make.row(x, false, 0, 1, 2);
         x.may(1, 0, 2, true);
         Check.same("20 may be is not alike", x.like(1, 0), 0);
         Check.same("20 itself", x.like(1, 1), 1);
@@ -608,27 +580,27 @@ public final class PromisesTest {
     }
 
     private static void partsAndAsk() {
-        FoundOffice x = withTables(3, 5, 5);
-        things(x, 5, PLAIN);
-        reports(x, 2);
+        FoundOffice x = Make.withTables(3, 5, 5);
+        Make.things(x, 5, PLAIN);
+        Make.reports(x, 2);
         Check.same("21 all unknown", x.parts(0, 0), 1);
         Check.same("22 none parts", x.ask(0), -1);
-        row(x, false, 0, 0, 0, 0);
-        row(x, false, 1, 0, 1, 1);
-        row(x, false, 2, 1, 1, 2);
-        row(x, false, 3, 1, 2, 2);
+        Make.row(x, false, 0, 0, 0, 0);
+        Make.row(x, false, 1, 0, 1, 1);
+        Make.row(x, false, 2, 1, 1, 2);
+        Make.row(x, false, 3, 1, 2, 2);
         Check.same("21 with those that do not know", x.parts(0, 0), 3);
         Check.same("21 classes", x.parts(0, 1), 4);
         Check.same("22 the first of the most", x.ask(0), 1);
-        row(x, true, 0, 1);
+        Make.row(x, true, 0, 1);
         Check.same("21 of what it fits", x.parts(0, 0), 2);
         Check.same("21 of what it fits", x.parts(0, 1), 3);
-        row(x, false, 4, 1, 2, 3);
+        Make.row(x, false, 4, 1, 2, 3);
         Check.same("21 all know", x.parts(0, 0), 1);
         Check.same("22 another one", x.ask(0), 1);
-        row(x, false, 3, 1, 2, 4);
+        Make.row(x, false, 3, 1, 2, 4);
         Check.same("22 the most classes", x.ask(0), 2);
-        row(x, true, 0, 2);
+        Make.row(x, true, 0, 2);
         Check.same("21 it fits nothing", x.parts(0, 0), 0);
         Check.same("22 it fits nothing", x.ask(0), -1);
         Check.same("21 no such question", x.parts(0, 3), -1);
@@ -645,13 +617,13 @@ public final class PromisesTest {
     }
 
     private static void fewest() {
-        FoundOffice x = withTables(2, 2, 2, 2, 12);
-        reports(x, 1);
+        FoundOffice x = Make.withTables(2, 2, 2, 2, 12);
+        Make.reports(x, 1);
         Check.same("23 no things", x.fewest(0), 0);
-        things(x, 12, PLAIN);
+        Make.things(x, 12, PLAIN);
         Check.same("23 all alike", x.fewest(0), 0);
         for (int t = 0; t < 12; t++) {
-            row(x, false, t, t & 1, t >> 1 & 1, t >> 2 & 1, t >> 3);
+            Make.row(x, false, t, t & 1, t >> 1 & 1, t >> 2 & 1, t >> 3);
         }
         Check.same("23 twelve by halves", x.fewest(0), 4);
         for (int t = 0; t < 12; t++) {
@@ -664,21 +636,21 @@ public final class PromisesTest {
         Check.same("23 three fours", x.fewest(0), 3);
         x.mark(false, 0, 4, 1);
         Check.same("23 the greatest of the classes", x.fewest(0), 4);
-        things(x, 1, PLAIN);
+        Make.things(x, 1, PLAIN);
         Check.same("23 thirteen", x.fewest(0), -2);
         Check.same("23 no such report", x.fewest(1), -1);
         Check.same("23 no such report", x.fewest(-1), -1);
         x.close(0);
         Check.same("23 thirteen, closed", x.fewest(0), -2);
-        row(x, true, 0, 0);
-        row(x, false, 12, 1);
+        Make.row(x, true, 0, 0);
+        Make.row(x, false, 12, 1);
         Check.same("23 of what it fits", x.fewest(0), 3);
         FoundOffice y = new FoundOffice();
         for (int q = 0; q < 16; q++) {
             y.question(0, 2, 1);
         }
-        reports(y, 1);
-        things(y, 12, PLAIN);
+        Make.reports(y, 1);
+        Make.things(y, 12, PLAIN);
         for (int t = 0; t < 11; t++) {
             y.mark(false, t, t, 1);
         }
@@ -688,11 +660,11 @@ public final class PromisesTest {
     }
 
     private static void claim() {
-        FoundOffice x = withTables(3);
-        things(x, 3, PLAIN);
-        reports(x, 3);
-        row(x, false, 1, 1);
-        row(x, true, 0, 2);
+        FoundOffice x = Make.withTables(3);
+        Make.things(x, 3, PLAIN);
+        Make.reports(x, 3);
+        Make.row(x, false, 1, 1);
+        Make.row(x, true, 0, 2);
         Check.same("24 claim", x.claim(0, 0), 0);
         Check.same("24 another report", x.claim(1, 0), 1);
         Check.same("24 another thing", x.claim(1, 1), 2);
@@ -719,9 +691,9 @@ public final class PromisesTest {
     }
 
     private static void claimsAreFull() {
-        FoundOffice x = withTables(2);
-        things(x, 2, PLAIN);
-        reports(x, 60);
+        FoundOffice x = Make.withTables(2);
+        Make.things(x, 2, PLAIN);
+        Make.reports(x, 60);
         for (int c = 0; c < 100; c++) {
             Check.same("24 claim " + c, x.claim(c % 50, c / 50), c);
         }
@@ -737,11 +709,11 @@ public final class PromisesTest {
     }
 
     private static void prove() {
-        FoundOffice x = withTables(3, 3, 3);
-        things(x, 2, PLAIN);
-        reports(x, 2);
-        row(x, false, 0, 0, 1, -1);
-        row(x, true, 0, 0);
+        FoundOffice x = Make.withTables(3, 3, 3);
+        Make.things(x, 2, PLAIN);
+        Make.reports(x, 2);
+        Make.row(x, false, 0, 0, 1, -1);
+        Make.row(x, true, 0, 0);
         x.claim(0, 0);
         x.claim(1, 0);
         Check.same("25 no such claim", x.prove(2, 9, 0), 1);
@@ -769,11 +741,11 @@ public final class PromisesTest {
     }
 
     private static void give() {
-        FoundOffice x = withTables(3, 3);
-        things(x, 3, PLAIN);
-        reports(x, 3);
+        FoundOffice x = Make.withTables(3, 3);
+        Make.things(x, 3, PLAIN);
+        Make.reports(x, 3);
         for (int t = 0; t < 3; t++) {
-            row(x, false, t, 0, 1);
+            Make.row(x, false, t, 0, 1);
         }
         x.claim(0, 0);
         x.claim(1, 0);
@@ -815,10 +787,10 @@ public final class PromisesTest {
     }
 
     private static void giveHeldBack() {
-        FoundOffice x = withTables(3, 3);
+        FoundOffice x = Make.withTables(3, 3);
         x.thing(WORTH, 0, false, -1);
-        reports(x, 2);
-        row(x, false, 0, 0, 1);
+        Make.reports(x, 2);
+        Make.row(x, false, 0, 0, 1);
         x.claim(0, 0);
         x.claim(1, 0);
         Check.same("26 not proved", x.give(0), 2);
@@ -841,7 +813,7 @@ public final class PromisesTest {
     }
 
     private static void giveABag() {
-        FoundOffice x = withTables(3);
+        FoundOffice x = Make.withTables(3);
         x.thing(BAG, 5, true, -1);
         x.thing(PLAIN, 5, true, -1);
         x.thing(WORTH, 5, true, 0);
@@ -852,7 +824,7 @@ public final class PromisesTest {
         x.thing(KEY, 5, true, 0);
         x.into(1, 3);
         x.mark(false, 0, 0, 1);
-        reports(x, 3);
+        Make.reports(x, 3);
         x.claim(0, 0);
         x.claim(1, 5);
         x.claim(1, 1);
@@ -880,12 +852,12 @@ public final class PromisesTest {
     }
 
     private static void giveOwnClaimsInside() {
-        FoundOffice x = withTables(3);
+        FoundOffice x = Make.withTables(3);
         x.thing(BAG, 0, false, -1);
         x.thing(PLAIN, 0, false, 0);
         x.thing(PLAIN, 0, false, 0);
         x.mark(false, 0, 0, 1);
-        reports(x, 2);
+        Make.reports(x, 2);
         x.claim(0, 0);
         x.claim(0, 1);
         x.claim(0, 2);
@@ -897,11 +869,11 @@ public final class PromisesTest {
         Check.same("26 withdrawn, too", x.claimed(2, 0), 2);
         Check.same("26 another's stays", x.place(2, 0), 0);
         Check.same("26 another's stands", x.claimed(3, 0), 0);
-        FoundOffice y = withTables(3);
+        FoundOffice y = Make.withTables(3);
         y.thing(BAG, 0, false, -1);
         y.thing(PLAIN, 0, false, 0);
         y.mark(false, 1, 0, 1);
-        reports(y, 1);
+        Make.reports(y, 1);
         y.claim(0, 1);
         y.prove(0, 0, 1);
         Check.same("26 out of a bag", y.give(0), 0);
@@ -910,9 +882,9 @@ public final class PromisesTest {
     }
 
     private static void withdraw() {
-        FoundOffice x = withTables(2);
-        things(x, 1, PLAIN);
-        reports(x, 1);
+        FoundOffice x = Make.withTables(2);
+        Make.things(x, 1, PLAIN);
+        Make.reports(x, 1);
         x.claim(0, 0);
         Check.no("27 no such claim", x.withdraw(1));
         Check.no("27 no such claim", x.withdraw(-1));
@@ -935,9 +907,9 @@ public final class PromisesTest {
     }
 
     private static void close() {
-        FoundOffice x = withTables(2);
-        things(x, 2, PLAIN);
-        reports(x, 2);
+        FoundOffice x = Make.withTables(2);
+        Make.things(x, 2, PLAIN);
+        Make.reports(x, 2);
         x.mark(false, 0, 0, 1);
         x.claim(0, 0);
         x.claim(0, 1);
@@ -957,9 +929,9 @@ public final class PromisesTest {
     }
 
     private static void claimed() {
-        FoundOffice x = withTables(2);
-        things(x, 3, PLAIN);
-        reports(x, 2);
+        FoundOffice x = Make.withTables(2);
+        Make.things(x, 3, PLAIN);
+        Make.reports(x, 2);
         x.claim(1, 2);
         Check.same("29 how", x.claimed(0, 0), 0);
         Check.same("29 its report", x.claimed(0, 1), 1);
@@ -973,8 +945,8 @@ public final class PromisesTest {
 
     private static void into() {
         FoundOffice x = new FoundOffice();
-        things(x, 4, BAG);
-        things(x, 2, PLAIN);
+        Make.things(x, 4, BAG);
+        Make.things(x, 2, PLAIN);
         Check.yes("30 into a bag", x.into(4, 0));
         Check.same("30 inside", x.place(4, 1), 0);
         Check.yes("30 into the same", x.into(4, 0));
@@ -1006,12 +978,12 @@ public final class PromisesTest {
     }
 
     private static void place() {
-        FoundOffice x = withTables(2);
+        FoundOffice x = Make.withTables(2);
         x.thing(BAG, 0, false, -1);
         x.thing(KEY, 17, true, 0);
         x.thing(BAG, 3, false, 0);
         x.thing(PAPER, 4, false, 2);
-        reports(x, 2);
+        Make.reports(x, 2);
         x.claim(0, 1);
         x.claim(1, 1);
         int[] bag = {0, -1, 0, BAG, 0, -1, -1, -1, 2, 0};
@@ -1074,7 +1046,7 @@ public final class PromisesTest {
     }
 
     private static void day() {
-        FoundOffice x = withTables(2);
+        FoundOffice x = Make.withTables(2);
         x.thing(PERISH, 0, true, -1);
         x.thing(PERISH, 8, true, -1);
         x.thing(PERISH, 8, false, -1);
@@ -1082,7 +1054,7 @@ public final class PromisesTest {
         x.thing(KEY, 9, true, -1);
         x.thing(KEY, 9, false, -1);
         x.thing(KEY, 9, true, -1);
-        reports(x, 1);
+        Make.reports(x, 1);
         x.claim(0, 6);
         Check.same("33 below", x.day(-1), -1);
         Check.same("33 above", x.day(101), -1);
@@ -1110,13 +1082,13 @@ public final class PromisesTest {
     }
 
     private static void dayOpensBags() {
-        FoundOffice x = withTables(2);
+        FoundOffice x = Make.withTables(2);
         x.thing(BAG, 7, true, -1);
         x.thing(PERISH, 8, true, 0);
         x.thing(BAG, 0, false, 0);
         x.thing(PERISH, 0, false, 2);
         x.thing(KEY, 0, false, 0);
-        reports(x, 1);
+        Make.reports(x, 1);
         x.claim(0, 2);
         x.claim(0, 4);
         x.days(BAG, 2);
@@ -1132,10 +1104,10 @@ public final class PromisesTest {
         x.close(0);
         Check.same("33 the bag's own days", x.day(2), 2);
         Check.same("33 sold with its bag", x.place(3, 7), 4);
-        FoundOffice y = withTables(2);
+        FoundOffice y = Make.withTables(2);
         y.thing(BAG, 0, false, -1);
         y.thing(BAG, 0, false, 0);
-        reports(y, 1);
+        Make.reports(y, 1);
         y.claim(0, 0);
         y.days(BAG, 1);
         Check.same("33 a claimed bag stays", y.day(5), 0);
@@ -1163,7 +1135,7 @@ public final class PromisesTest {
     }
 
     private static void count() {
-        FoundOffice x = withTables(2, 2, 2);
+        FoundOffice x = Make.withTables(2, 2, 2);
         x.thing(BAG, 0, false, -1);
         x.thing(KEY, 0, false, 0);
         x.thing(KEY, 0, false, 0);
@@ -1171,7 +1143,7 @@ public final class PromisesTest {
         x.thing(PERISH, 4, true, -1);
         x.thing(KEY, 0, false, -1);
         x.thing(PLAIN, 0, false, -1);
-        reports(x, 4);
+        Make.reports(x, 4);
         x.mark(false, 6, 0, 1);
         x.claim(0, 6);
         x.claim(1, 6);
@@ -1194,7 +1166,7 @@ public final class PromisesTest {
 
     private static void gone() {
         FoundOffice x = new FoundOffice();
-        things(x, 60, PERISH);
+        Make.things(x, 60, PERISH);
         Check.same("35 none yet", x.gone(0), -1);
         Check.same("35 all", x.day(1), 60);
         for (int k = 0; k < 60; k++) {
@@ -1208,13 +1180,13 @@ public final class PromisesTest {
     }
 
     private static void deepBags() {
-        FoundOffice x = withTables(2);
+        FoundOffice x = Make.withTables(2);
         x.thing(BAG, 6, true, -1);
         for (int t = 1; t < 60; t++) {
             x.thing(BAG, 0, false, t - 1);
         }
         Check.no("30 sixty deep", x.into(0, 59));
-        reports(x, 1);
+        Make.reports(x, 1);
         x.claim(0, 40);
         x.days(BAG, 1);
         Check.same("33 forty bags", x.day(1), 40);
@@ -1229,10 +1201,10 @@ public final class PromisesTest {
 
     private static void noArgumentThrows() {
         int[] odd = {MIN, MIN + 1, -3, -2, -1, 0, 1, 5, 15, 16, 39, 40, 59, 60, 63, 64, 100, 101, 1 << 20, MAX};
-        FoundOffice x = withTables(2, 40);
+        FoundOffice x = Make.withTables(2, 40);
         x.question(2, 0, 1);
-        things(x, 3, BAG);
-        reports(x, 3);
+        Make.things(x, 3, BAG);
+        Make.reports(x, 3);
         x.claim(0, 1);
         for (int a : odd) {
             for (int b : odd) {
