@@ -60,7 +60,6 @@ public final class FoundOffice {
     private final Asking asking;
     private final int[] kindDays;
     private final int[] openedBags;
-    private final int[] openedAt;
     private int today;
 
     public FoundOffice() {
@@ -75,7 +74,6 @@ public final class FoundOffice {
         asking = new Asking(questions, thingRows);
         kindDays = new int[] {30, 30, 10, 60, 1, 10};
         openedBags = new int[MOST_ENTRIES];
-        openedAt = new int[MOST_ENTRIES];
         today = 0;
     }
 
@@ -435,7 +433,8 @@ public final class FoundOffice {
     }
 
     /**
-     * Bags are opened on a stack of rows, not by recursion, since up to sixty may lie in one another.
+     * Bags are opened on a stack, not by recursion, since up to sixty may lie in one another; what is
+     * inside is always the first that is still there, since each of them leaves the bag.
      * A claim that stands on a thing inside is always another report's than the one that is given
      * the bag: that one's claims have ended before.
      */
@@ -443,15 +442,13 @@ public final class FoundOffice {
         sendOut(first, person, why);
         int open = 1;
         openedBags[0] = first;
-        openedAt[0] = 0;
-        int most = (MOST_ENTRIES + 1) * (MOST_ENTRIES + 1);
+        int most = 2 * MOST_ENTRIES;
         for (int step = 0; step < most && open > 0; step++) {
-            int t = things.nextInside(openedBags[open - 1], openedAt[open - 1]);
+            int t = things.firstInside(openedBags[open - 1]);
             if (t == NONE) {
                 open--;
                 continue;
             }
-            openedAt[open - 1] = t + 1;
             if (claims.standingOn(t) > 0) {
                 things.moveTo(t, NONE);
                 continue;
@@ -459,7 +456,6 @@ public final class FoundOffice {
             sendOut(t, person, why);
             if (open < openedBags.length) {
                 openedBags[open] = t;
-                openedAt[open] = 0;
                 open++;
             }
         }
@@ -813,9 +809,8 @@ public final class FoundOffice {
             return false;
         }
 
-        /** The first thing inside a bag whose number is not below the one told. */
-        int nextInside(int bag, int from) {
-            for (int t = Math.max(from, 0); t < size; t++) {
+        int firstInside(int bag) {
+            for (int t = 0; t < size; t++) {
                 if (bags[t] == bag) {
                     return t;
                 }

@@ -163,6 +163,21 @@ public final class AskingEdgesTest {
         Check.same("by what it told itself", x.parts(0, 1), 1);
     }
 
+    private static void p21_answersOfOthersMakeNoDifference() {
+        FoundOffice x = Make.withTables(3, 3);
+        x.thing(PERISH, 0, false, -1);
+        Make.things(x, 2, PLAIN);
+        Make.reports(x, 1);
+        Make.row(x, false, 0, 1, 0);
+        Make.row(x, false, 1, 1, 1);
+        Make.row(x, false, 2, 1, 0);
+        x.mark(true, 0, 1, 0);
+        Check.same("two of three", x.parts(0, 0), 1);
+        x.day(1);
+        Check.same("the last one", x.parts(0, 0), 1);
+        Check.same("none parts them", x.ask(0), -1);
+    }
+
     private static void p21_thoseThatAreOut() {
         FoundOffice x = withThings(1, 3);
         Make.things(x, 1, PERISH);
@@ -407,6 +422,14 @@ public final class AskingEdgesTest {
         Make.row(x, false, 2, 1, 0, 0);
         Make.row(x, false, 3, 1, 0, 1);
         Check.same("the second or the third", x.fewest(0), 2);
+        FoundOffice y = withThings(5, 3, 2, 2);
+        Make.row(y, false, 0, 0, 0, 0);
+        Make.row(y, false, 1, 1, 0, 0);
+        Make.row(y, false, 2, 2, 0, 0);
+        Make.row(y, false, 3, 0, 1, 0);
+        Make.row(y, false, 4, 0, 1, 1);
+        Check.same("the most classes", y.ask(0), 0);
+        Check.same("the second, then the first or the third", y.fewest(0), 2);
     }
 
     private static void p23_allSixteenQuestions() {

@@ -107,11 +107,22 @@ public final class FitEdgesTest {
         Check.same("on a new object", new FoundOffice().fits(0, 0), -1);
     }
 
-    private static void p11_reportsAndThingsHaveNumbersOfTheirOwn() {
-        FoundOffice x = new FoundOffice();
+    /** Report 0 fits the things 0 and 1, and report 1 all three. */
+    private static FoundOffice threeThings() {
+        FoundOffice x = Make.withTables(3, 3);
         Make.things(x, 3, PLAIN);
-        x.report(1);
-        Check.same("report 0, thing 2", x.fits(0, 2), 1);
+        Make.reports(x, 2);
+        x.mark(true, 0, 1, 0);
+        x.mark(false, 0, 1, 0);
+        x.mark(false, 2, 1, 1);
+        return x;
+    }
+
+    private static void p11_reportsAndThingsHaveNumbersOfTheirOwn() {
+        FoundOffice x = threeThings();
+        Check.same("report 0, thing 0", x.fits(0, 0), 1);
+        Check.same("report 0, thing 2", x.fits(0, 2), 0);
+        Check.same("report 1, thing 2", x.fits(1, 2), 1);
         Check.same("there is no report 2", x.fits(2, 0), -1);
     }
 
@@ -139,6 +150,21 @@ public final class FitEdgesTest {
             x.mark(true, 0, q, q == 1 ? -1 : 1);
         }
         Check.same("none", x.tells(0, 0), -1);
+    }
+
+    private static void p12_reportsAndThingsHaveNumbersOfTheirOwn() {
+        FoundOffice x = threeThings();
+        Check.same("report 0, thing 0", x.tells(0, 0), -1);
+        Check.same("report 0, thing 2", x.tells(0, 2), 1);
+        Check.same("report 1, thing 2", x.tells(1, 2), -1);
+        x.mark(true, 1, 1, 2);
+        Check.same("report 1, thing 2", x.tells(1, 2), 1);
+        Check.same("report 1, thing 1", x.tells(1, 1), -1);
+        Check.same("there is no report 2", x.tells(2, 0), -1);
+        Make.reports(x, 3);
+        x.mark(true, 4, 1, 2);
+        Check.same("report 4, thing 0", x.tells(4, 0), 1);
+        Check.same("there is no thing 4", x.tells(0, 4), -1);
     }
 
     private static void p12_bothKnowIt() {
@@ -202,6 +228,15 @@ public final class FitEdgesTest {
         x.mark(false, 0, 0, 1);
         x.mark(true, 0, 1, 1);
         Check.same("each knows another one", x.strength(0, 0), 0);
+    }
+
+    private static void p13_reportsAndThingsHaveNumbersOfTheirOwn() {
+        FoundOffice x = threeThings();
+        Check.same("report 0, thing 0", x.strength(0, 0), 12);
+        Check.same("report 0, thing 1", x.strength(0, 1), 0);
+        Check.same("report 0, thing 2", x.strength(0, 2), -1);
+        Check.same("report 1, thing 2", x.strength(1, 2), 0);
+        Check.same("there is no report 2", x.strength(2, 0), -1);
     }
 
     private static void p13_allThatBothKnow() {

@@ -163,6 +163,17 @@ public final class GiveEdgesTest {
         Check.same("that may be", x.give(0), 0);
     }
 
+    private static void p26_itIsItsOwnReportThatHasToFit() {
+        FoundOffice x = with(2, PLAIN, 2);
+        x.mark(false, 0, 1, 0);
+        x.mark(false, 1, 1, 0);
+        proved(x, 1, 0);
+        proved(x, 0, 1);
+        x.mark(true, 0, 1, 2);
+        Check.same("claim 0, of report 1", x.give(0), 0);
+        Check.same("claim 1, of report 0", x.give(1), 4);
+    }
+
     private static void p26_aWorthIsHeldBackOnce() {
         FoundOffice x = with(1, WORTH, 1);
         proved(x, 0, 0);
@@ -205,6 +216,16 @@ public final class GiveEdgesTest {
         Check.same("claim 3, the same report on the same thing", x.give(3), 5);
         Check.same("claim 3", x.give(3), 0);
         Check.same("claim 2", x.give(2), 0);
+    }
+
+    private static void p26_laterClaimsMakeNoDifference() {
+        FoundOffice x = with(2, WORTH, 3);
+        proved(x, 0, 0);
+        Check.same("the first time", x.give(0), 5);
+        x.claim(1, 0);
+        x.claim(0, 1);
+        proved(x, 2, 0);
+        Check.same("the next time", x.give(0), 0);
     }
 
     private static void p26_theFirstTimeIsWhenItComesSoFar() {
@@ -369,6 +390,37 @@ public final class GiveEdgesTest {
             Check.same("none inside", x.place(t, 8), 0);
         }
         Check.same("all by a claim", x.count(10), 6);
+    }
+
+    private static void p26_twoBagsBesideOneAnotherInside() {
+        FoundOffice x = with(7, BAG, 1);
+        x.into(3, 6);
+        x.into(4, 6);
+        x.into(5, 6);
+        x.into(2, 3);
+        x.into(0, 4);
+        x.into(1, 4);
+        proved(x, 0, 6);
+        x.give(0);
+        isGone(x, 6, 3, 2, 4, 0, 1, 5);
+    }
+
+    private static void p26_oneBagAfterAnother() {
+        FoundOffice x = with(6, BAG, 2);
+        x.into(2, 5);
+        x.into(3, 2);
+        x.into(0, 4);
+        x.into(1, 0);
+        proved(x, 0, 5);
+        proved(x, 1, 4);
+        Check.same("the one", x.give(0), 0);
+        isPlaced(x, INSIDE, INSIDE, OUT, OUT, SHELF, OUT);
+        Check.same("the other one", x.give(1), 0);
+        isGone(x, 5, 2, 3, 4, 0, 1);
+        int[] to = {102, 102, 101, 101, 102, 101};
+        for (int t = 0; t < to.length; t++) {
+            Check.same("each to its own", x.place(t, 5), to[t]);
+        }
     }
 
     private static void p26_aClaimOfAnotherReportInside() {

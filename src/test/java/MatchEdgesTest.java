@@ -272,18 +272,15 @@ public final class MatchEdgesTest {
         FoundOffice x = Make.withTables(40);
         Make.reports(x, 3);
         Make.things(x, 3, PLAIN);
-        int[] fits1 = {0, 1};
-        for (int t = 0; t < 3; t++) {
-            x.mark(false, t, 0, t);
-            x.may(0, 10, t, true);
-            x.may(0, 12, t, true);
+        for (int i = 0; i < 3; i++) {
+            x.mark(false, i, 0, i);
+            x.mark(true, i, 0, 10 + i);
+            for (int r = 0; r < 3; r++) {
+                x.may(0, 10 + r, i, true);
+            }
         }
-        for (int t : fits1) {
-            x.may(0, 11, t, true);
-        }
-        for (int r = 0; r < 3; r++) {
-            x.mark(true, r, 0, 10 + r);
-        }
+        isBest(x, 0, 1, 2);
+        x.may(0, 11, 2, false);
         isBest(x, 0, 1, 2);
         x.may(0, 11, 1, false);
         isBest(x, 1, 0, 2);
@@ -378,6 +375,15 @@ public final class MatchEdgesTest {
         Check.same("the sum", x.sum(9), 9 * 612);
     }
 
+    private static void p16_theOnlyThingForTheLastReport() {
+        FoundOffice x = weights(10, 1, 10);
+        know(x, false, 0, 0);
+        know(x, true, 9, 0);
+        isBest(x, -1, -1, -1, -1, -1, -1, -1, -1, -1, 0);
+        Check.same("the sum", x.sum(0), 120);
+        Check.same("it alone", x.also(9), 1);
+    }
+
     private static void p16_askedAgainItIsFoundAnew() {
         FoundOffice x = weights(2, 2, 100, 1);
         know(x, false, 0, 0);
@@ -396,7 +402,7 @@ public final class MatchEdgesTest {
         isBest(x, 1, -1);
     }
 
-    /** The sums of the strengths, 192000, and all ten answers at the limits of what can be. */
+    /** Ten strengths of 19200 each, the most that a best way can come to. */
     private static void p16_theGreatestGroupOfTheGreatestStrengths() {
         FoundOffice x = new FoundOffice();
         for (int q = 0; q < 16; q++) {

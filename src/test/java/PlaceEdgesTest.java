@@ -526,15 +526,15 @@ public final class PlaceEdgesTest {
         x.thing(PERISH, 8, true, -1);
         x.thing(BAG, 7, true, -1);
         x.thing(BAG, 0, false, -1);
-        x.into(0, 2);
-        x.into(1, 3);
+        x.into(1, 2);
+        x.into(0, 3);
         x.days(BAG, 1);
         Check.same("two bags, two inside", x.day(1), 4);
-        isGone(x, 2, 0, 3, 1);
+        isGone(x, 2, 1, 3, 0);
         isOut(x, 2, 7, 1, 2);
-        isOut(x, 0, 7, 1, 2);
+        isOut(x, 1, 7, 1, 2);
         isOut(x, 3, 0, 1, 4);
-        isOut(x, 1, 0, 1, 4);
+        isOut(x, 0, 0, 1, 4);
     }
 
     private static void p33_claimedOnesInsideComeToTheShelf() {
