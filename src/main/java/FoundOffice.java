@@ -598,24 +598,31 @@ public final class FoundOffice {
     /** The rows of answers, of all things or of all reports; a missing one has the length NONE. */
     static final class Rows {
         private final int[] lengths = new int[MOST_ENTRIES];
+        /** The questions that each one knows, as bits; the answers at other places mean nothing. */
+        private final int[] knownSets = new int[MOST_ENTRIES];
         private final int[] answers = new int[MOST_ENTRIES * MOST_QUESTIONS];
 
         Rows() {
             for (int x = 0; x < lengths.length; x++) {
                 lengths[x] = NONE;
+                knownSets[x] = 0;
             }
         }
 
-        private boolean isRow(int x) {
-            return x >= 0 && x < lengths.length;
+        private static boolean isRow(int x) {
+            return x >= 0 && x < MOST_ENTRIES;
         }
 
         int lengthOf(int x) {
             return isRow(x) ? lengths[x] : NONE;
         }
 
+        int knownSetOf(int x) {
+            return isRow(x) ? knownSets[x] : 0;
+        }
+
         int answerOf(int x, int q) {
-            if (!isRow(x) || q < 0 || q >= MOST_QUESTIONS || q >= lengths[x]) {
+            if (!isRow(x) || q < 0 || q >= MOST_QUESTIONS || (knownSets[x] >> q & 1) == 0) {
                 return NONE;
             }
             return answers[x * MOST_QUESTIONS + q];
@@ -625,11 +632,9 @@ public final class FoundOffice {
             if (!isRow(x) || q < 0 || q >= MOST_QUESTIONS) {
                 return;
             }
-            int start = x * MOST_QUESTIONS;
-            for (int i = Math.max(lengths[x], 0); i < q; i++) {
-                answers[start + i] = NONE;
-            }
-            answers[start + q] = a;
+            int bit = 1 << q;
+            knownSets[x] = a == NONE ? knownSets[x] & ~bit : knownSets[x] | bit;
+            answers[x * MOST_QUESTIONS + q] = a;
             lengths[x] = Math.max(lengths[x], q + 1);
         }
 
@@ -638,6 +643,7 @@ public final class FoundOffice {
                 return false;
             }
             lengths[x] = n;
+            knownSets[x] &= (1 << Math.max(n, 0)) - 1;
             return true;
         }
     }
@@ -1014,11 +1020,9 @@ public final class FoundOffice {
         }
 
         int firstClash(int r, int t) {
-            int shared = Math.min(reportRows.lengthOf(r), thingRows.lengthOf(t));
-            for (int q = 0; q < shared; q++) {
-                int a = reportRows.answerOf(r, q);
-                int b = thingRows.answerOf(t, q);
-                if (a != NONE && b != NONE && !questions.agree(q, a, b)) {
+            int both = reportRows.knownSetOf(r) & thingRows.knownSetOf(t);
+            for (int q = 0; q < MOST_QUESTIONS && both >> q != 0; q++) {
+                if ((both >> q & 1) != 0 && !questions.agree(q, reportRows.answerOf(r, q), thingRows.answerOf(t, q))) {
                     return q;
                 }
             }
